@@ -221,12 +221,12 @@ public final class TeachingSets {
         if (concepts.count == 0) {
             return EMPTY;
         }
-        plan.make();
+        plan.renew();
         return plan.largest;
     }
 
     public int layerCount() {
-        plan.make();
+        plan.renew();
         return plan.height;
     }
 
@@ -234,7 +234,7 @@ public final class TeachingSets {
         if (!concepts.has(number)) {
             return NO_SUCH_CONCEPT;
         }
-        plan.make();
+        plan.renew();
         return plan.layers[number];
     }
 
@@ -242,7 +242,7 @@ public final class TeachingSets {
         if (!concepts.has(number)) {
             return NO_SUCH_CONCEPT;
         }
-        plan.make();
+        plan.renew();
         return plan.sets[number];
     }
 
@@ -408,7 +408,7 @@ public final class TeachingSets {
         if (versions == 0) {
             return EMPTY;
         }
-        plan.make();
+        plan.renew();
         int lowest = MOST_CONCEPTS;
         int decoded = EMPTY;
         for (int number = 0; number < concepts.count; number++) {
@@ -611,6 +611,8 @@ public final class TeachingSets {
         final boolean[] rated;
         /** For each point the numbers of the concepts that contain it, so that whole classes are split at once. */
         private final int[] holders;
+        /** Another number after each change of the points or the class, so that a plan can tell that it is old. */
+        int edition;
 
         Concepts() {
             points = FIRST_POINTS;
@@ -619,6 +621,7 @@ public final class TeachingSets {
             scores = new double[MOST_CONCEPTS];
             rated = new boolean[MOST_CONCEPTS];
             holders = new int[MOST_POINTS];
+            edition = 0;
         }
 
         int allPoints() {
@@ -690,6 +693,7 @@ public final class TeachingSets {
             unrate(count);
             index(count);
             count++;
+            edition++;
             return true;
         }
 
@@ -748,6 +752,7 @@ public final class TeachingSets {
             for (int number = 0; number < count; number++) {
                 index(number);
             }
+            edition++;
         }
 
         private void index(int number) {
@@ -878,7 +883,7 @@ public final class TeachingSets {
         }
     }
 
-    /** The recursive teaching plan. It is made anew for each question, so that it can never be out of date. */
+    /** The recursive teaching plan, which is dear to make and is kept until the class changes. */
     private static final class Plan {
         private final Concepts concepts;
         private final Search search;
@@ -886,6 +891,7 @@ public final class TeachingSets {
         final int[] sets;
         int height;
         int largest;
+        private int edition;
 
         Plan(Concepts planned, Search used) {
             concepts = planned;
@@ -894,9 +900,17 @@ public final class TeachingSets {
             sets = new int[MOST_CONCEPTS];
             height = 0;
             largest = 0;
+            edition = planned.edition;
         }
 
-        void make() {
+        void renew() {
+            if (edition != concepts.edition) {
+                make();
+                edition = concepts.edition;
+            }
+        }
+
+        private void make() {
             int left = concepts.allNumbers();
             height = 0;
             largest = 0;
@@ -973,7 +987,7 @@ public final class TeachingSets {
         private static final int[] POWERS = {1, 3, 9, 27, 81, 243, 729, 2187, 6561};
         private static final int MOST_CODES = 6561;
         private static final int UNKNOWN = -1;
-        private static final int USELESS = 99;
+        private static final int USELESS = MOST_POINTS + 1;
 
         private final Concepts concepts;
         private final int[] depths;
@@ -984,7 +998,10 @@ public final class TeachingSets {
         }
 
         int depth(int numbers) {
-            Arrays.fill(depths, 0, POWERS[concepts.points], UNKNOWN);
+            // Only as far as the codes of the present points go: clearing the whole row would cost more than the search.
+            for (int code = 0; code < POWERS[concepts.points]; code++) {
+                depths[code] = UNKNOWN;
+            }
             return depthOf(numbers, 0, 0);
         }
 
@@ -1004,19 +1021,25 @@ public final class TeachingSets {
                 return 0;
             }
             if (depths[code] == UNKNOWN) {
-                int least = USELESS;
-                for (int point = 0; point < concepts.points; point++) {
-                    least = Math.min(least, depthBy(point, numbers, code, asked));
-                }
-                depths[code] = least;
+                depths[code] = leastDepth(numbers, code, asked);
             }
             return depths[code];
+        }
+
+        private int leastDepth(int numbers, int code, int asked) {
+            int size = Integer.bitCount(numbers);
+            int least = USELESS;
+            // One query less could tell at most 2^(least - 1) concepts apart: with more, no other point is better.
+            for (int point = 0; point < concepts.points && 1 << (least - 1) >= size; point++) {
+                least = Math.min(least, depthBy(point, numbers, code, asked));
+            }
+            return least;
         }
 
         /** The depth if the point is asked next; a point that is asked already splits no more, and is useless. */
         private int depthBy(int point, int numbers, int code, int asked) {
             int with = numbers & concepts.labelling(point, 1);
-            int without = numbers & concepts.labelling(point, 0);
+            int without = numbers & ~with;
             if (with == 0 || without == 0) {
                 return USELESS;
             }

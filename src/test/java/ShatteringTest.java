@@ -40,6 +40,9 @@ public final class ShatteringTest {
                 "addConcept(0): 0; addConcept(2): 1; addConcept(4): 2; addConcept(6): 3; dimension(): 2",
                 "shatteredSet(2): 6; shatteredCount(2): 1; shatteredSet(1): 2; shatteredCount(1): 2; growth(2): 4",
                 "traceCount(6): 4; traceCount(5): 2; traceCount(1): 1; shatteredSet(3): NONE; growth(3): 4");
+        s.fresh("promises 25 to 29: the whole domain is shattered",
+                "reset(2): 3; addConcept(0): 0; addConcept(1): 1; addConcept(2): 2; addConcept(3): 3; dimension(): 2",
+                "shatteredSet(2): 3; shatteredCount(2): 1; shatteredCount(1): 2; growth(2): 4; traceCount(3): 4");
         s.fresh("promises 25 to 29: three traces do not shatter",
                 "addConcept(0): 0; addConcept(1): 1; addConcept(2): 2; traceCount(3): 3; dimension(): 1",
                 "shatteredSet(2): NONE; shatteredCount(2): 0; growth(2): 3");

@@ -158,6 +158,13 @@ public final class SlotTest {
                 "restore(): 1; compareScores(0, 0): 3; clearSample(): 0; addConcept(4): 1; complementAll(): 2",
                 "addExample(1, 1): 1; restore(): 1; concept(0): 1; concept(1): NO_SUCH_CONCEPT; clearSample(): 0",
                 "restrict(1): 1; restore(): 1; pointCount(): 3; concept(0): 1");
+        s.fresh("promises 48 and 49: everything is written over before the restore",
+                "addConcept(1): 0; addConcept(2): 1; setScore(0, 1, 3): 0; setScore(1, 2, 3): 0; addExample(0, 0): 1",
+                "addExample(2, 0): 2; snapshot(): 2; reset(5): 3; addConcept(31): 0; addConcept(30): 1",
+                "addConcept(29): 2; setScore(0, 5, 1): 0; setScore(1, 0, 0): 0; addExample(4, 1): 1",
+                "addExample(3, 1): 2; addExample(2, 1): 3; restore(): 2; example(0): 0; example(1): 4; example(2): NONE",
+                "version(0): 1; versionCount(): 1; setScore(0, 1, 3): 1; setScore(1, 2, 3): 1; pointCount(): 3",
+                "concept(0): 1; concept(1): 2; teachingSet(0): 1; queryDepth(): 0; majority(1): 1; halvingMistakes(0): 1");
         s.fresh("promise 48: a later snapshot replaces an earlier one, that of nothing too",
                 "addConcept(1): 0; snapshot(): 1; reset(2): 3; snapshot(): 0; reset(5): 2; addConcept(1): 0",
                 "restore(): 0; pointCount(): 2; conceptCount(): 0; restore(): 0");

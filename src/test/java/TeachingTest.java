@@ -100,6 +100,21 @@ public final class TeachingTest {
                 "addConcept(4): 4; addConcept(5): 5; addConcept(6): 6; addConcept(7): 7; addConcept(8): 8",
                 "recursiveDimension(): 3; layerCount(): 2; layer(8): 0; planSet(8): 8; layer(0): 1; planSet(0): 7",
                 "removeConcept(8): 8; layerCount(): 1; layer(0): 0");
+        s.fresh("promise 18: each answer is of the class as it is",
+                "reset(2): 3; addConcept(0): 0; addConcept(1): 1; addConcept(2): 2; addConcept(3): 3",
+                "recursiveDimension(): 2; removeConcept(3): 3; recursiveDimension(): 1; removeConcept(2): 2",
+                "removeConcept(1): 1; recursiveDimension(): 0");
+        s.fresh("promises 18 to 21: the plan follows every change of the class",
+                "layerCount(): 0; addConcept(0): 0; layerCount(): 1; addConcept(1): 1; planSet(0): 1; addConcept(2): 2",
+                "layerCount(): 2; layer(0): 1; snapshot(): 3; complementAll(): 3; planSet(1): 1; layer(0): 1",
+                "addConcept(0): 3; layer(0): 2; planSet(3): 4; removeConcept(3): 3; layer(0): 1; restrict(2): 2",
+                "layerCount(): 1; planSet(0): 1; recursiveDimension(): 1; restore(): 3; layerCount(): 2; layer(0): 1",
+                "allocate(0, 1, 1): 1; loadClass(0): 1; layerCount(): 1; planSet(0): 0; addIntervals(): 6",
+                "layerCount(): 3; reset(3): 3; layerCount(): 0; addIntervals(): 6; layer(0): 0; addConcept(0): 6",
+                "layer(0): 0; layer(6): 1");
+        s.fresh("promise 19: asked alone", "addConcept(0): 0; addConcept(1): 1; addConcept(2): 2; layerCount(): 2");
+        s.fresh("promise 20: asked alone", "addConcept(0): 0; addConcept(1): 1; addConcept(2): 2; layer(0): 1");
+        s.fresh("promise 21: asked alone", "addConcept(0): 0; addConcept(1): 1; addConcept(2): 2; planSet(2): 2");
         s.fresh("promises 18 to 21: the sample does not matter",
                 "addConcept(0): 0; addConcept(1): 1; addConcept(2): 2; addConcept(4): 3; addExample(0, 0): 1",
                 "addExample(0, 1): 2; layerCount(): 2; layer(0): 1; planSet(3): 4; recursiveDimension(): 1");
@@ -141,6 +156,9 @@ public final class TeachingTest {
                 "preferenceSet(0): 3; setScore(1, 1, 2): 0; preferenceSet(0): 2; setScore(2, 1, 1): 0",
                 "preferenceSet(0): 2; setScore(2, 1, 0): 0; preferenceSet(0): 2; setScore(2, -1, 0): 0",
                 "preferenceSet(0): 0; preferenceSet(1): 1; preferenceSet(2): 2");
+        s.fresh("promise 24: the first concept may be the lesser one",
+                "addConcept(1): 0; addConcept(0): 1; setScore(0, 1, 2): 0; setScore(1, 1, 1): 0; preferenceSet(1): 0",
+                "preferenceSet(0): 1");
         s.fresh("promise 24: 0.0 is not less than -0.0, nor the other way",
                 "addConcept(0): 0; addConcept(1): 1; setScore(0, 0, 1): 0; setScore(1, 0, -1): 0",
                 "preferenceSet(0): 1; preferenceSet(1): 1");

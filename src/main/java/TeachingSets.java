@@ -984,24 +984,23 @@ public final class TeachingSets {
      * set of answers is looked at once: its code has a digit of base 3 for each point, 0 while it is not asked.
      */
     private static final class Queries {
-        private static final int[] POWERS = {1, 3, 9, 27, 81, 243, 729, 2187, 6561};
-        private static final int MOST_CODES = 6561;
+        private static final int[] POWERS = {1, 3, 9, 27, 81, 243, 729, 2187};
+        /** The 6561 codes, 16 to a word. */
+        private static final int WORDS = 411;
         private static final int UNKNOWN = -1;
         private static final int USELESS = MOST_POINTS + 1;
 
         private final Concepts concepts;
-        private final int[] depths;
+        /** Four bits for each code, because all objects of a run share one room: 0, or the depth plus 1. */
+        private final long[] depths;
 
         Queries(Concepts asked) {
             concepts = asked;
-            depths = new int[MOST_CODES];
+            depths = new long[WORDS];
         }
 
         int depth(int numbers) {
-            // Only as far as the codes of the present points go: clearing the whole row would cost more than the search.
-            for (int code = 0; code < POWERS[concepts.points]; code++) {
-                depths[code] = UNKNOWN;
-            }
+            Arrays.fill(depths, 0L);
             return depthOf(numbers, 0, 0);
         }
 
@@ -1020,10 +1019,25 @@ public final class TeachingSets {
             if (asked >= concepts.points || Integer.bitCount(numbers) <= 1) {
                 return 0;
             }
-            if (depths[code] == UNKNOWN) {
-                depths[code] = leastDepth(numbers, code, asked);
+            int known = knownDepth(code);
+            if (known != UNKNOWN) {
+                return known;
             }
-            return depths[code];
+            int depth = leastDepth(numbers, code, asked);
+            keepDepth(code, depth);
+            return depth;
+        }
+
+        private int knownDepth(int code) {
+            return (int) (depths[code >> 4] >> placeOf(code) & 15L) - 1;
+        }
+
+        private void keepDepth(int code, int depth) {
+            depths[code >> 4] |= (depth + 1L) << placeOf(code);
+        }
+
+        private static int placeOf(int code) {
+            return (code & 15) << 2;
         }
 
         private int leastDepth(int numbers, int code, int asked) {

@@ -12,6 +12,7 @@ public final class ClassTest {
         complementAll(s);
         restrict(s);
         isIntersectionClosed(s);
+        lastOfManyCalls(s);
         s.end();
     }
 
@@ -129,6 +130,16 @@ public final class ClassTest {
                 "reset(8): 3; addConcept(128): 0; addConcept(192): 1; addConcept(1): 2; restrict(192): 3",
                 "concept(0): 2; concept(1): 3; concept(2): 0; addExample(0, 1): 1; version(0): 1",
                 "versionCount(): 1; teachingSet(2): 2");
+    }
+
+    /** An object is used for at most 512 calls: the last of them is answered like the first. */
+    private static void lastOfManyCalls(Script s) {
+        s.fresh("promises 2, 4, 6, 20, 30, 32, 48 and 49: the 512th call");
+        for (int round = 0; round < 51; round++) {
+            s.more("reset(3): 3; addConcept(1): 0; addConcept(2): 1; addExample(0, 1): 1; snapshot(): 2",
+                    "removeConcept(0): 1; layer(0): 0; restore(): 2; version(0): 0; clearSample(): 1");
+        }
+        s.more("queryDepth(): 1; bestQuery(): 0");
     }
 
     private static void isIntersectionClosed(Script s) {

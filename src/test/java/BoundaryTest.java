@@ -10,6 +10,7 @@ public final class BoundaryTest {
         ShatteringBoundaries.test(s);
         SampleBoundaries.test(s);
         SlotBoundaries.test(s);
+        UnchangedState.test(s);
         s.end();
     }
 }

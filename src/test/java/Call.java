@@ -6,7 +6,8 @@ import java.util.Map;
 
 /**
  * A call written as in the document, with the answer that is due: "addExample(0, 2): BAD_ARGUMENT". Arguments and
- * answers are numbers, constants of the class, or MIN_INT, MAX_INT, MIN_LONG and MAX_LONG.
+ * answers are numbers, constants of the class, or MIN_INT, MAX_INT, MIN_LONG and MAX_LONG; the answer "any" is given
+ * where a test looks only at what the call leaves as it was.
  */
 final class Call {
     private static final Map<String, Method> METHODS = new HashMap<>();
@@ -23,6 +24,7 @@ final class Call {
     final String text;
     final String name;
     final Object[] arguments;
+    final boolean dueIsGiven;
     final long due;
     /** Whether the answer that is due is one of the document's error codes. */
     final boolean refused;
@@ -31,7 +33,8 @@ final class Call {
         int colon = written.lastIndexOf(':');
         text = written.substring(0, colon).trim();
         String answer = written.substring(colon + 1).trim();
-        due = number(answer);
+        dueIsGiven = !answer.equals("any");
+        due = dueIsGiven ? number(answer) : 0;
         refused = isConstant(answer);
         int open = text.indexOf('(');
         name = text.substring(0, open);

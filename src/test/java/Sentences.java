@@ -66,6 +66,11 @@ final class Sentences {
         run("promise " + number + ", terms: \"" + sentence + "\", " + boundary, lines);
     }
 
+    /** A test of what a promise's calls leave as it was, where they are refused or only read. */
+    void nothingChanges(int number, String state, String... lines) {
+        run("promise " + number + ": nothing changes in " + state, lines);
+    }
+
     private void quote(int promise, String sentence) {
         boolean there = quotes.containsKey(promise) && quotes.get(promise).containsKey(sentence);
         holds(there, (promise == TERMS ? "the terms do" : "promise " + promise + " does") + " not say: " + sentence);
@@ -83,8 +88,11 @@ final class Sentences {
         for (String written : String.join(";", lines).split(";")) {
             Call call = new Call(written);
             calls++;
-            compare(name, call, call.answerOf(object), "");
-            compare(name, call, call.answerOf(model), " by the plain model");
+            String answer = call.answerOf(object);
+            String modelAnswer = call.answerOf(model);
+            String due = call.dueIsGiven ? Long.toString(call.due) : modelAnswer;
+            compare(name, call, answer, "", due);
+            compare(name, call, modelAnswer, " by the plain model", due);
             run.add(call);
             Observation after = new Observation(run);
             String changed = Observation.wronglyChanged(before, call, after);
@@ -94,9 +102,8 @@ final class Sentences {
         holds(run.size() <= LONGEST_RUN, name + " is too long for the looks at it");
     }
 
-    private void compare(String name, Call call, String got, String by) {
-        holds(got.equals(Long.toString(call.due)),
-                name + ": " + call.text + " is answered " + got + by + ", due is " + call.due);
+    private void compare(String name, Call call, String got, String by, String due) {
+        holds(got.equals(due), name + ": " + call.text + " is answered " + got + by + ", due is " + due);
     }
 
     private void holds(boolean fact, String otherwise) {

@@ -220,6 +220,18 @@ final class SampleBoundaries {
         s.promise(39, "Returns the point", "0 and 7", "addConcept(0): 0; addConcept(1): 1; bestQuery(): 0; reset(8): 3",
                 "addConcept(0): 0; addConcept(128): 1; bestQuery(): 7");
         s.promise(39, "Returns the point", "a full class", FULL_CLASS, "bestQuery(): 0");
+        // In each class seven queries may leave 127 and 255, which only the last point tells apart.
+        s.promise(39, best, "two concepts that differ only in the last of eight points",
+                "reset(8): 3; addConcept(255): 0; addConcept(127): 1; addConcept(31): 2; addConcept(105): 3; addConcept(23): 4",
+                "addConcept(154): 5; addConcept(142): 6; addConcept(147): 7; queryDepth(): 3; bestQuery(): 7");
+        s.promise(39, best, "two that differ only in the last point, and eight more",
+                "reset(8): 3; addConcept(255): 0; addConcept(127): 1; addConcept(108): 2; addConcept(126): 3; addConcept(125): 4",
+                "addConcept(88): 5; addConcept(223): 6; addConcept(247): 7; addConcept(52): 8; addConcept(191): 9",
+                "queryDepth(): 5; bestQuery(): 0");
+        s.promise(39, best, "two that differ only in the last point, where point 2 is the best",
+                "reset(8): 3; addConcept(255): 0; addConcept(127): 1; addConcept(6): 2; addConcept(111): 3; addConcept(119): 4",
+                "addConcept(123): 5; addConcept(63): 6; addConcept(108): 7; addConcept(254): 8; queryDepth(): 5",
+                "bestQuery(): 2");
         String first = "EMPTY if the version space is empty (checked first)";
         s.promise(39, first, "an empty class", "bestQuery(): EMPTY; addExample(0, 0): 1; bestQuery(): EMPTY");
         s.promise(39, first, "no consistent concept", "addConcept(0): 0; addExample(0, 1): 1; bestQuery(): EMPTY");

@@ -1,10 +1,16 @@
 import java.io.IOException;
+import java.lang.reflect.Array;
 import java.lang.reflect.Constructor;
 import java.lang.reflect.Field;
 import java.lang.reflect.Method;
 import java.lang.reflect.Modifier;
 import java.nio.file.Files;
 import java.nio.file.Path;
+import java.util.ArrayDeque;
+import java.util.Arrays;
+import java.util.Collections;
+import java.util.Deque;
+import java.util.IdentityHashMap;
 import java.util.Set;
 import java.util.TreeSet;
 import java.util.regex.Matcher;
@@ -23,12 +29,17 @@ public final class FaceTest {
     private static final Set<String> LIBRARY = Set.of("Arrays.fill", "System.arraycopy", "Math.max", "Math.min",
             "Integer.bitCount", "Long.bitCount", "Long.MIN_VALUE");
 
+    private static final int MOST_ELEMENTS = 1500;
+    private static final int LONGEST_METHOD = 60;
+
     private static int wrong = 0;
 
     public static void main(String[] args) throws IOException, ReflectiveOperationException {
         face();
         constants();
         hiddenNames();
+        limits();
+        room();
         source();
         System.out.println("FaceTest: " + wrong + " wrong");
         if (wrong != 0) {
@@ -110,6 +121,79 @@ public final class FaceTest {
         }
     }
 
+    /** Rules 5 and 11, as far as the compiled class shows them. */
+    private static void limits() {
+        Class<?>[] inside = TeachingSets.class.getDeclaredClasses();
+        holds(inside.length + 1 <= 12, "the file has " + (inside.length + 1) + " classes");
+        withinLimits(TeachingSets.class);
+        for (Class<?> one : inside) {
+            holds(one.getDeclaredClasses().length == 0, one + " has classes inside");
+            withinLimits(one);
+        }
+    }
+
+    private static void withinLimits(Class<?> one) {
+        int fields = 0;
+        for (Field field : one.getDeclaredFields()) {
+            boolean shared = Modifier.isStatic(field.getModifiers());
+            holds(!shared || Modifier.isFinal(field.getModifiers()), field + " is static state");
+            fields += shared ? 0 : 1;
+        }
+        holds(fields <= 20, one + " has " + fields + " fields");
+        for (Method method : one.getDeclaredMethods()) {
+            holds(method.getParameterCount() <= 7, method + " takes too much");
+        }
+    }
+
+    /** All objects of a run share one room: what one of them holds, before and after calls of all kinds. */
+    private static void room() throws ReflectiveOperationException {
+        TeachingSets object = new TeachingSets();
+        int before = elements(object);
+        object.reset(8);
+        object.addIntervals();
+        object.addExamples(0, 255);
+        object.snapshot();
+        object.allocate(0, 3, 40);
+        object.layer(0);
+        object.clearSample();
+        object.queryDepth();
+        object.dimension();
+        object.restore();
+        holds(before <= MOST_ELEMENTS, "an object holds " + before + " fields and elements");
+        holds(elements(object) == before, "an object grows from " + before + " to " + elements(object));
+    }
+
+    private static int elements(Object first) throws ReflectiveOperationException {
+        Set<Object> seen = Collections.newSetFromMap(new IdentityHashMap<>());
+        Deque<Object> open = new ArrayDeque<>();
+        open.add(first);
+        int elements = 0;
+        while (!open.isEmpty()) {
+            Object next = open.remove();
+            if (!seen.add(next)) {
+                continue;
+            }
+            if (next.getClass().isArray()) {
+                elements += Array.getLength(next);
+                if (next instanceof Object[] parts) {
+                    open.addAll(Arrays.asList(parts));
+                }
+                continue;
+            }
+            for (Field field : next.getClass().getDeclaredFields()) {
+                if (!Modifier.isStatic(field.getModifiers())) {
+                    elements++;
+                    field.setAccessible(true);
+                    Object held = field.get(next);
+                    if (!field.getType().isPrimitive() && held != null) {
+                        open.add(held);
+                    }
+                }
+            }
+        }
+        return elements;
+    }
+
     private static void source() throws IOException {
         String text = Files.readString(SOURCE).replaceAll("(?s)/\\*.*?\\*/", "").replaceAll("//.*", "");
         for (String pattern : NOT_USED) {
@@ -124,6 +208,18 @@ public final class FaceTest {
             holds(LIBRARY.contains(used.group()), "the class uses " + used.group());
         }
         roomIsMadeOnce(text);
+        methodsAreShort(text);
+    }
+
+    private static void methodsAreShort(String text) {
+        Matcher method = Pattern.compile("(?m)^( +)[^\\n;=]*\\) \\{\\n(?:(?!\\1\\}).*\\n)*\\1\\}").matcher(text);
+        int found = 0;
+        while (method.find()) {
+            found++;
+            long lines = method.group().lines().count();
+            holds(lines <= LONGEST_METHOD, lines + " lines: " + method.group().lines().findFirst().orElse(""));
+        }
+        holds(found > 100, "only " + found + " methods were read");
     }
 
     /** All calls of a run share one room: a field is given its object in a constructor, and nothing else is made. */

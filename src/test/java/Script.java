@@ -26,6 +26,14 @@ final class Script {
         }
     }
 
+    /** A fact that is no answer of a call. */
+    void holds(boolean fact, String otherwise) {
+        if (!fact) {
+            wrong++;
+            System.out.println(test + ": " + otherwise);
+        }
+    }
+
     void end() {
         System.out.println(test + ": " + calls + " calls, " + wrong + " wrong");
         if (wrong != 0 || calls == 0) {
